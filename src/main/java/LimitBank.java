@@ -149,7 +149,7 @@ public final class LimitBank {
         if (!now.hasTenant(tenant)) {
             return BAD;
         }
-        int first = now.demands.firstOf(tenant);
+        int first = now.demands.firstWith(OWNER, tenant);
         if (first < 0) {
             return STATE;
         }
@@ -543,10 +543,8 @@ public final class LimitBank {
                 if (!isDigit(at)) {
                     return at;
                 }
+                // A third digit begins no name, so the next round tells it as the fault.
                 end = isDigit(at + 1) ? at + 2 : at + 1;
-                if (isDigit(end)) {
-                    return end;
-                }
                 units[name] = numberBetween(at, end);
                 at = afterBlanks(end);
             }
@@ -697,15 +695,12 @@ public final class LimitBank {
             return rows;
         }
 
-        int firstOf(int tenant) {
-            return firstWith(OWNER, tenant);
-        }
-
         int rowOf(int number) {
             return number < 0 ? -1 : firstWith(NUMBER, number);
         }
 
-        private int firstWith(int column, int value) {
+        /** The first row that has the value in the column, -1 if none has. */
+        int firstWith(int column, int value) {
             for (int row = 0; row < size; row++) {
                 if (cell(row, column) == value) {
                     return row;
@@ -841,7 +836,7 @@ public final class LimitBank {
             int next = -1;
             int least = 0;
             for (int t = 0; t < tenants; t++) {
-                int row = demands.firstOf(t);
+                int row = demands.firstWith(OWNER, t);
                 if (row >= 0 && fits(row)) {
                     int share = shareOf(t);
                     if (next < 0 || share < least) {

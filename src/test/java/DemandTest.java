@@ -24,10 +24,19 @@ final class DemandTest {
         row(bank, 0, 1, 20, 3, 4, 1);
         row(bank, 1, 1, 20, 3, 4, 0);
         row(bank, 2, 0, 0, 99, 0, 1);
+        Check.demand(bank, 0, "disk 1", 4);
+        row(bank, 3, 0, 0, 0, 1, 0);
+        Check.due("withdraw(0)", bank.withdraw(0), 3);
+        Check.due("withdraw(0)", bank.withdraw(0), 2);
+        Check.type(bank, "cpu 1");
+        bank.undo();
+        row(bank, 1, 0, 0, 99, 0, 1);
+        row(bank, 2, 0, 0, 0, 1, 0);
         row(bank, 3, LimitBank.NONE, LimitBank.NONE, LimitBank.NONE, LimitBank.NONE,
                 LimitBank.NONE);
         Check.due("count(3)", bank.count(3), 3);
         Check.due("tenant(1, 5)", bank.tenant(1, 5), 2);
+        Check.due("tenant(0, 5)", bank.tenant(0, 5), 1);
     }
 
     private static void refusals() {

@@ -58,6 +58,10 @@ final class TextTest {
     private static void faultsOfNames() {
         fault("x", 0);
         fault("c", 0);
+        fault("xpu 1", 0);
+        fault("nem 1", 0);
+        fault("met 1", 0);
+        fault("dist 1", 0);
         fault("cp", 0);
         fault("  cp", 2);
         fault("cpux", 0);

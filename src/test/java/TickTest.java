@@ -53,6 +53,13 @@ final class TickTest {
         Check.due("a debt of 4", bank.tenant(0, 1), -5);
         bank.pass(1);
         Check.due("no debt", bank.tenant(0, 1), 5);
+        LimitBank one = new LimitBank();
+        one.addTenant(1);
+        one.setResource(0, true, 9);
+        one.setResource(0, false, 9);
+        one.borrow(0, 0, 6);
+        one.pass(1);
+        Check.due("a debt of 1", one.tenant(0, 1), -2);
         LimitBank even = Check.bank(0, 100, 2);
         even.borrow(0, 0, 1);
         even.pass(1);
@@ -146,6 +153,11 @@ final class TickTest {
             Check.due("time of " + t, bank.tenant(t, 7), 1);
         }
         Check.due("count(7)", bank.count(7), 3);
+        Check.due("pass(4)", bank.pass(4), 1);
+        bank.undo();
+        for (int t = 0; t < 3; t++) {
+            Check.due("place of " + t + " after undo()", bank.tenant(t, 6), t);
+        }
         Check.due("pass(2)", bank.pass(2), 3);
         Check.due("pass(1): one alone leaves", bank.pass(1), 2);
         Check.due("place of 0", bank.tenant(0, 6), LimitBank.NONE);

@@ -18,6 +18,10 @@ final class ToldTest {
         bank.borrow(1, 2, 6);
         Check.demand(bank, 1, "mem 20", 1);
         bank.grant();
+        bank.setLimit(0, 0, 7);
+        bank.setLimit(1, 3, 8);
+        Check.due("resource(0, 4)", bank.resource(0, 4), 7);
+        Check.due("resource(3, 4)", bank.resource(3, 4), 8);
         int[] mem = {40, 30, 20, 5, 10019, 0};
         int[] net = {40, 19, 0, 1, 11, 11};
         for (int what = 0; what <= 5; what++) {
@@ -70,7 +74,12 @@ final class ToldTest {
         Check.due("share with the weight 1", bank.tenant(0, 2), 4285);
         bank.setResource(2, false, 3);
         Check.due("share of all of it", bank.tenant(0, 2), 10000);
+        bank.setResource(0, false, 1);
+        Check.demand(bank, 0, "cpu 1", 1);
+        bank.grant();
         bank.release(1);
+        Check.due("share of the one unit that there is", bank.tenant(0, 2), 10000);
+        bank.release(2);
         Check.due("share of a third", bank.tenant(0, 2), 3333);
     }
 
