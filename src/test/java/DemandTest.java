@@ -2,6 +2,7 @@
 final class DemandTest {
     public static void main(String[] args) {
         demands();
+        resourcesWithoutNames();
         refusals();
         fullQueue();
         withdrawals();
@@ -37,6 +38,16 @@ final class DemandTest {
         Check.due("count(3)", bank.count(3), 3);
         Check.due("tenant(1, 5)", bank.tenant(1, 5), 2);
         Check.due("tenant(0, 5)", bank.tenant(0, 5), 1);
+    }
+
+    private static void resourcesWithoutNames() {
+        LimitBank bank = Check.bank(0, 0, 1);
+        Check.demand(bank, 0, "cpu 5 mem 6 net 7 disk 8", 1);
+        Check.demand(bank, 0, "mem 1", 2);
+        Check.demand(bank, 0, "cpu 1", 3);
+        row(bank, 0, 5, 6, 7, 8, 0);
+        row(bank, 1, 0, 1, 0, 0, 0);
+        row(bank, 2, 1, 0, 0, 0, 0);
     }
 
     private static void refusals() {
