@@ -1,3 +1,5 @@
+import java.util.function.Supplier;
+
 /** What every test of the project uses: due answers, and an exit code of 1 if one was missed. */
 final class Check {
     private static int asDue = 0;
@@ -56,6 +58,34 @@ final class Check {
     static void refused(LimitBank bank, long digestBefore, String call, long got, long want) {
         due(call, got, want);
         due("digest() after " + call, bank.digest(), digestBefore);
+    }
+
+    /** A call that a test makes on several banks. */
+    interface Call {
+        long on(LimitBank bank);
+    }
+
+    /** As refused() above, and the history is compared with that of a bank without the call. */
+    static void refused(Supplier<LimitBank> maker, String name, long want, Call call) {
+        LimitBank bank = maker.get();
+        due(name, call.on(bank), want);
+        same(name, bank, maker.get());
+    }
+
+    /** Undoes all that can be undone in both banks, which have to tell the same all the way. */
+    static void same(String after, LimitBank bank, LimitBank twin) {
+        due("digest() after " + after, bank.digest(), twin.digest());
+        for (int i = 1; i <= 9; i++) {
+            due("undo() " + i + " after " + after, bank.undo(), twin.undo());
+            due("digest() after undo() " + i + " and " + after, bank.digest(), twin.digest());
+        }
+    }
+
+    /** Lets a tenant use units, by a demand that has to be the next one. */
+    static void use(LimitBank bank, int tenant, String text) {
+        type(bank, text);
+        due("demand(" + tenant + ") of \"" + text + "\" > 0", bank.demand(tenant) > 0 ? 1 : 0, 1);
+        due("grant() of \"" + text + "\"", bank.grant(), tenant);
     }
 
     static void end(String test) {
