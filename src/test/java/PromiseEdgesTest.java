@@ -470,7 +470,7 @@ final class PromiseEdgesTest {
         Check.due("count(7) after undo()", bank.count(7), 1);
     }
 
-    /** Promise 23: "BAD if grant is negative ...; NONE if there is no such grant, or not any more." */
+    /** Promise 23: "BAD if grant is negative"; "NONE if there is no such grant, or not any more" */
     private static void grantedOfNone() {
         LimitBank bank = withGrantsAndDemands(2, 0);
         for (int what = 0; what <= 4; what++) {

@@ -1,6 +1,6 @@
 import java.util.Random;
 
-/** Runs of 512 calls with fixed seeds, each answer compared with that of PlainBank. */
+/** Runs of some 500 calls with fixed seeds, each answer compared with that of PlainBank. */
 final class RandomRunsTest {
     private static final int RUNS = 600;
     private static final int[] ODD = {-1, Integer.MIN_VALUE, Integer.MAX_VALUE, 4, 5, 6, 10, 1000,
@@ -38,7 +38,8 @@ final class RandomRunsTest {
 
     private void run() {
         setUp();
-        while (calls < 512 && !Check.anyWrong()) {
+        // The last round can be of ten calls, and no bank is asked more than 512 times.
+        while (calls < 500 && !Check.anyWrong()) {
             oneCall();
             if (random.nextInt(4) == 0) {
                 due("digest()", bank.digest(), plain.digest());
